@@ -1,5 +1,5 @@
-/** Counts the calls of a test whose answer is not the one that is due. */
-final class Due {
+/** What each test builds on: it counts the calls whose answer is not the one that is due. */
+class Due {
   static final int BEYOND = -1000001;
   static final int FULL = -1000002;
   static final int KIND = -1000003;
@@ -52,8 +52,5 @@ final class Due {
     for (int i = 0; i < numbers.length; i++) {
       x.write(s, i, numbers[i]);
     }
-  }
-
-  private Due() {
   }
 }
