@@ -17,6 +17,7 @@ public final class HoursTest extends Due {
     left();
     off();
     best();
+    bestOfChains();
     close();
   }
 
@@ -97,6 +98,16 @@ public final class HoursTest extends Due {
     x.guess(2);
     x.step(1);
     due("a by a curve", x.of(1, 3), 5);
+    StepWorld y = new StepWorld();
+    y.box(0, 304, 0);
+    y.box(0, 0, 0);
+    text(y, 0, "q=q+1;v=q*2");
+    y.seam(1, 10);
+    y.step(1);
+    due("out v as it is", y.of(1, 3), 0);
+    y.step(1);
+    due("out v as it is", y.of(1, 3), 2);
+    due("which wasn't off", y.count(5), 0);
   }
 
   private static void bothAtOnce() {
@@ -298,6 +309,19 @@ public final class HoursTest extends Due {
     due("the last of its hour, then a turn", x.of(0, 1), 4);
     x.step(1);
     due("once", x.of(0, 1), 5);
+    StepWorld y = new StepWorld();
+    y.box(0, 0, 0);
+    y.box(0, 0, 0);
+    y.event(1, 1, 6);
+    due("the hour ahead of it", y.step(1), 1);
+    due("not yet", y.of(1, 1), 0);
+    y.image();
+    y.step(1);
+    due("of box 1", y.of(1, 1), 6);
+    due("not of box 0", y.of(0, 1), 0);
+    y.undo();
+    y.step(1);
+    due("of box 1 again", y.of(1, 1), 6);
     for (int i = 3; i < 20; i++) {
       due("event " + i, x.event(50, 0, 1), i);
     }
@@ -311,10 +335,13 @@ public final class HoursTest extends Due {
     due("none", x.next(), NONE);
     x.box(0, 0, 0);
     x.event(7, 0, 1);
+    x.event(0, 0, 1);
+    due("hour 0", x.next(), 0);
+    x.step(1);
     x.event(2, 0, 1);
     x.event(999, 0, 1);
     due("the least", x.next(), 2);
-    x.step(2);
+    x.step(1);
     due("the open one", x.next(), 2);
     x.step(1);
     due("the next", x.next(), 7);
@@ -422,5 +449,24 @@ public final class HoursTest extends Due {
     x.box(0, 0, 0);
     due("six", x.best(-1), SIZE);
     due("beyond ahead of size", x.best(6), BEYOND);
+  }
+
+  /** Of a chain of all BOXES just one row is not off. */
+  private static void bestOfChains() {
+    int[][] chains = {{4, 3, 2, 1, 0}, {0, 1, 2, 3, 4}, {1, 4, 2, 0, 3}, {3, 0, 4, 2, 1}, {4, 0, 3, 1, 2}, {2, 4, 3, 1, 0}};
+    for (int[] chain : chains) {
+      StepWorld x = new StepWorld();
+      for (int i = 0; i < 5; i++) {
+        x.box(0, 0, 0);
+        text(x, i, "p=a+1");
+      }
+      for (int i = 1; i < 5; i++) {
+        x.seam(10 * chain[i - 1], 10 * chain[i]);
+      }
+      due("not off", x.best(-1), 0);
+      for (int i = 0; i < 5; i++) {
+        due("chain, at " + i, x.best(i), chain[i]);
+      }
+    }
   }
 }

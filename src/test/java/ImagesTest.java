@@ -4,6 +4,7 @@ public final class ImagesTest extends Due {
     images();
     imageIsAll();
     wholeComesBack();
+    madeAnew();
     count();
     status();
     findingsChangeNothing();
@@ -92,6 +93,53 @@ public final class ImagesTest extends Due {
     due("undo", x.undo(), 0);
     due("no box", x.count(0), 0);
     due("whole", x.whole(5), 4);
+  }
+
+  /** What is made where something was taken back has nothing of it; what comes back has nothing of what was made. */
+  private static void madeAnew() {
+    StepWorld x = new StepWorld();
+    x.step(1);
+    x.box(2, 0, 5);
+    x.box(3, 0, 0);
+    text(x, 1, "p=p+1");
+    x.seam(0, 10);
+    x.seam(0, 0);
+    x.in(0, 1, 4);
+    x.in(1, 1, 4);
+    x.say(1, 2, 3);
+    x.step(2);
+    due("left by seam 1", x.left(1), 1);
+    x.image();
+    due("to no boxes", x.back(3), 0);
+    due("a new one", x.box(3, 0, 0), 0);
+    due("a new one", x.box(2, 107, 9), 1);
+    for (int what = 3; what < 5; what++) {
+      due("a new in", x.of(0, what), 0);
+    }
+    due("no lines", x.of(1, 7), 0);
+    due("a new time", x.of(0, 8), 1);
+    text(x, 0, "p=p+1");
+    due("a new seam", x.seam(10, 11), 0);
+    due("and one more", x.seam(11, 0), 1);
+    int[] seam = {10, 11, 0, 0, 0, 0, 0, 9};
+    for (int what = 0; what < seam.length; what++) {
+      due("new seam " + what, x.seamIs(0, what), seam[what]);
+    }
+    due("new high", x.seamIs(1, 7), 9);
+    due("new low", x.seamIs(1, 6), 0);
+    x.say(0, 5, 9);
+    x.step(1);
+    due("its first turn", x.of(0, 1), 1);
+    due("left by seam 0", x.left(1), 0);
+    due("undo", x.undo(), 3);
+    due("kind", x.of(0, 0), 2);
+    due("jump", x.of(0, 9), 5);
+    due("kind of 1", x.of(1, 0), 3);
+    due("left by seam 1", x.left(1), 1);
+    due("left in hour 1", x.left(0), 1);
+    due("p of 1", x.of(1, 1), 1);
+    x.step(1);
+    due("both ins of 1 are as at its last turn", x.of(1, 1), 1);
   }
 
   private static void count() {

@@ -77,6 +77,18 @@ public final class MachinesTest extends Due {
     due("2", x.lay(2, 2), 1);
     due("on three", x.lay(3, -1), 8);
     due("the third is not needed", x.lay(3, 2), 1);
+    sheet(x, 0, 1, 1, 1);
+    due("as a sheet has it", x.end(2, 0), 10);
+    due("the laying is none of a sheet", x.lay(2, 0), 0);
+    sheet(x, 0, 1, 0, 2);
+    x.order(0);
+    due("likewise by this order", x.end(3, 0), 8);
+    x.seam(20, 10);
+    x.seam(10, 21);
+    due("2 waits for 1 and 0", x.lay(3, -1), 8);
+    sheet(x, 0, 2, 1, 0);
+    x.order(0);
+    due("1 and 0 wait for 2", x.lay(3, -1), 8);
     due("no box", x.lay(3, 3), BEYOND);
     due("on 4", x.lay(4, 0), BEYOND);
     due("on -1", x.lay(-1, 0), BEYOND);

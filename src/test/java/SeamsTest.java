@@ -196,6 +196,13 @@ public final class SeamsTest extends Due {
     due("seam 1 of the first", x.solve(0, 1), 2);
     due("seam 2 of the first", x.solve(1, 2), 4);
     due("seam 3 of three", x.solve(1, 3), NONE);
+    due("the first once more", x.solve(0, 1), 2);
+    due("all of them once more", x.answers(1), 4);
+    x.box(0, 0, 0);
+    x.seam(0, 20);
+    x.seam(20, 11);
+    due("seams out of the ring and into it are not told", x.answers(1), 4);
+    due("nor asked", x.solve(1, 3), NONE);
     due("nothing changes", x.of(0, 3), 0);
   }
 

@@ -59,6 +59,11 @@ public final class TextTest extends Due {
     due("a fault", text(x, 0, "q=1;p=2;u=3;v=+"), 14);
     due("the tape is empty behind a fault", x.count(6), 0);
     due("the text stays", x.of(0, 7), 1);
+    due("a fault at 0", text(x, 0, "h=1"), 0);
+    due("the text stays", x.of(0, 7), 1);
+    due("a fault with much open", text(x, 0, "p=q-(q-3*(q%)))"), 12);
+    due("a text behind it", text(x, 0, "p=p+2"), -1);
+    due("is worked out alone", x.would(0, 0, 100, 0, 0), 3);
     due("no fault is a finding", x.status(-1), 2);
     due("all of a text is new", text(x, 0, "q=2"), -1);
     due("p has no line", x.would(0, 0, 400, 0, 0), 4);
