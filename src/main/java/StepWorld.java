@@ -33,6 +33,8 @@ public final class StepWorld {
   private static final int BESIDE_MOST = 30;
   private static final int RULES = 3;
   private static final int DOORS = 2;
+  /** Above all that is counted here: ANSWERS, and how far SEAMS are off. */
+  private static final int NO_LIMIT = 1000000;
 
   private static final int JUMPING = 2;
   private static final int COUNTING = 3;
@@ -298,7 +300,7 @@ public final class StepWorld {
     if (finding != 0) {
       return found(finding);
     }
-    return rings.search(side, Integer.MAX_VALUE);
+    return rings.search(side, NO_LIMIT);
   }
 
   public int solve(int box, int i) {
@@ -1352,7 +1354,7 @@ public final class StepWorld {
         row[i] = i;
         rows *= i + 1;
       }
-      int least = Integer.MAX_VALUE;
+      int least = NO_LIMIT;
       for (int i = 0; i < rows; i++) {
         side.copyFrom(w);
         System.arraycopy(row, 0, side.order, 0, n);

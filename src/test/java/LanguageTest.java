@@ -103,7 +103,7 @@ public final class LanguageTest extends Due {
     each(code, "\\bSystem\\.(\\w+)", Set.of("arraycopy"));
     each(code, "\\bMath\\.(\\w+)", Set.of("min", "max"));
     each(code, "\\bArrays\\.(\\w+)", Set.of("fill", "copyOf"));
-    each(code, "\\bInteger\\.(\\w+)", Set.of("MAX_VALUE"));
+    each(code, "\\bInteger\\.(\\w+)", Set.of());
     lengths(lines);
   }
 
