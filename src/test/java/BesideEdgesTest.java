@@ -25,22 +25,12 @@ public final class BesideEdgesTest extends Edge {
     return at(x, hour);
   }
 
-  private static int change(StepWorld x, String text, int box, int n) {
-    feed(x, text);
-    return x.change(box, n);
-  }
-
-  private static int drift(StepWorld x, String text, int box, int n) {
-    feed(x, text);
-    return x.drift(box, n);
-  }
-
   private static void changeAtTheEnds() {
     for (int wait = 0; wait <= 31; wait++) {
       StepWorld x = still(20);
       // p is 0 till an event; then the text at its side doubles it.
       x.event(20 + wait, 0, 1);
-      for (int n = 1; n <= 30; n += 1) {
+      for (int n = 1; n <= 30; n++) {
         due("event in " + wait + " of " + n, change(x, "p=p*2", 0, n), wait < n ? 20 + wait : NONE);
       }
       due("drift in " + wait, drift(x, "p=p*2", 0, 30), wait < 30 ? 0 : NONE);
@@ -177,20 +167,8 @@ public final class BesideEdgesTest extends Edge {
   private static void besideRules() {
     for (int rule = 0; rule < 3; rule++) {
       for (int other = 0; other < 3; other++) {
-        StepWorld x = Edge.boxes(2);
-        text(x, 0, "p=p*p+1;q=q+p");
-        x.seam(1, 0);
-        x.seam(11, 1);
-        text(x, 1, "q=q+3");
-        x.guess(other);
-        x.step(4);
-        StepWorld y = Edge.boxes(2);
-        text(y, 0, "p=p*p+1;q=q+p");
-        y.seam(1, 0);
-        y.seam(11, 1);
-        text(y, 1, "q=q+3");
-        y.guess(other);
-        y.step(4);
+        StepWorld x = guessing(other);
+        StepWorld y = guessing(other);
         y.guess(rule);
         for (int n = 0; n <= 30; n++) {
           due("rule " + rule + " behind " + n, x.beside(rule, n), y.count(5));
@@ -202,6 +180,17 @@ public final class BesideEdgesTest extends Edge {
     }
     due("no seams", Edge.boxes(3).beside(2, 30), 0);
     due("no boxes", new StepWorld().beside(0, 0), 0);
+  }
+
+  private static StepWorld guessing(int rule) {
+    StepWorld x = Edge.boxes(2);
+    text(x, 0, "p=p*p+1;q=q+p");
+    text(x, 1, "q=q+3");
+    x.seam(1, 0);
+    x.seam(11, 1);
+    x.guess(rule);
+    x.step(4);
+    return x;
   }
 
   /** EVENTS of each BOX happen beside as in the world itself; so do TURNS by THE ORDER. */

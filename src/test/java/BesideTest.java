@@ -9,16 +9,6 @@ public final class BesideTest extends Due {
     close();
   }
 
-  private static int change(StepWorld x, String text, int box, int n) {
-    feed(x, text);
-    return x.change(box, n);
-  }
-
-  private static int drift(StepWorld x, String text, int box, int n) {
-    feed(x, text);
-    return x.drift(box, n);
-  }
-
   private static StepWorld twoBoxes() {
     StepWorld x = new StepWorld();
     x.box(0, 100, 0);

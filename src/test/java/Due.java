@@ -46,6 +46,16 @@ class Due {
     return x.text(box);
   }
 
+  static int change(StepWorld x, String text, int box, int n) {
+    feed(x, text);
+    return x.change(box, n);
+  }
+
+  static int drift(StepWorld x, String text, int box, int n) {
+    feed(x, text);
+    return x.drift(box, n);
+  }
+
   /** A sheet of 8 bits with these numbers. */
   static void sheet(StepWorld x, int s, int... numbers) {
     x.sheet(s, 8, numbers.length);

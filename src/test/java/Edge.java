@@ -16,6 +16,11 @@ class Edge extends Due {
     void on(StepWorld x);
   }
 
+  /** Far from all bounds, but near to some by their lowest bits or digits. */
+  private static final int[] FAR = {
+    Integer.MIN_VALUE, Integer.MIN_VALUE + 1, -65536, -1000, -256, -101, -100, -99, -10, 32, 33, 100, 101, 110, 128, 200, 255,
+    256, 257, 1000, 1001, 1515, 65535, 65536, 65537, 1 << 30, Integer.MAX_VALUE - 1, Integer.MAX_VALUE};
+
   static final int FINDING_LEAST = SIZE;
   static final int FINDING_MOST = BEYOND;
 
@@ -23,7 +28,7 @@ class Edge extends Due {
     return answer >= FINDING_LEAST && answer <= FINDING_MOST;
   }
 
-  /** Each number from least to most is taken; one less, one more, and the ends of int are answered by a finding. */
+  /** Each number from least to most is taken; one less, one more, and those far from them are answered by a finding. */
   static void bounds(String what, Supplier<StepWorld> world, CallBy call, int least, int most, int below, int above) {
     for (int v = least; v <= most; v++) {
       int answer = call.on(world.get(), v);
@@ -31,8 +36,11 @@ class Edge extends Due {
     }
     due(what + " " + (least - 1), call.on(world.get(), least - 1), below);
     due(what + " " + (most + 1), call.on(world.get(), most + 1), above);
-    due(what + " MIN", call.on(world.get(), Integer.MIN_VALUE), below);
-    due(what + " MAX", call.on(world.get(), Integer.MAX_VALUE), above);
+    for (int v : FAR) {
+      if (v < least || v > most) {
+        due(what + " " + v, call.on(world.get(), v), v < least ? below : above);
+      }
+    }
   }
 
   static void bounds(String what, Supplier<StepWorld> world, CallBy call, int least, int most) {

@@ -20,6 +20,7 @@ public final class HourEdgesTest extends Edge {
     firstTurnIsTakenBack();
     jumpEdges();
     turnsKnownAndGuessed();
+    hourOfALine();
     offAtTheEnds();
     bestOfOneToFive();
     bestOfSeveral();
@@ -310,6 +311,7 @@ public final class HourEdgesTest extends Edge {
     y.back(1);
     due("taken back", y.next(), 0);
     y.event(7, 0, 1);
+    due("hour 0 ahead of a later one told behind it", y.next(), 0);
     y.event(0, 0, 2);
     due("hour 0 ahead of a later one", y.next(), 0);
     y.step(1);
@@ -535,6 +537,40 @@ public final class HourEdgesTest extends Edge {
     due("1 had a guess", x.of(1, 3), 0);
     due("seam 1 was off by 4", x.seamIs(1, 5), 4);
     due("seam 0 was not", x.seamIs(0, 5), 5);
+  }
+
+  /** h is the open HOUR: in a TURN, at the end of the HOUR, and when asked for; it goes on with the next. */
+  private static void hourOfALine() {
+    StepWorld x = new StepWorld();
+    x.whole(16);
+    x.box(0, 0, 0);
+    x.box(0, 0, 0);
+    text(x, 0, "p=h;q=h+1;u=h;v=h*2");
+    x.image();
+    x.seam(0, 10);
+    x.seam(1, 11);
+    x.seam(1, 0);
+    due("u in hour 0", x.of(0, 5), 0);
+    due("v in hour 0", x.of(0, 6), 0);
+    for (int hour = 0; hour < 20; hour++) {
+      due("open", x.count(3), hour);
+      x.step(1);
+      due("p", x.of(0, 1), hour % 16);
+      due("q", x.of(0, 2), (hour + 1) % 16);
+      due("what u was in the turn", x.of(1, 3), hour % 16);
+      due("what v was in the turn", x.of(1, 4), hour * 2 % 16);
+      due("what u was at the end", x.seamIs(0, 2), hour % 16);
+      due("what v was at the end", x.seamIs(1, 2), hour * 2 % 16);
+      due("u in the next", x.of(0, 5), (hour + 1) % 16);
+      due("v in the next", x.of(0, 6), (hour + 1) * 2 % 16);
+      due("owes nothing", x.seamIs(0, 5) + x.seamIs(1, 5), 0);
+    }
+    due("back", x.back(6), 14);
+    due("u then", x.of(0, 5), 14);
+    due("undo", x.undo(), 0);
+    due("u then", x.of(0, 5), 0);
+    due("an hour told", x.would(0, 2, 0, 0, 13), 13);
+    due("is not the open one", x.of(0, 5), 0);
   }
 
   private static void offAtTheEnds() {

@@ -8,6 +8,7 @@ public final class ImageEdgesTest extends Edge {
     tapeAndSheets();
     fullWorld();
     undoIsAll();
+    eventsComeBack();
     tearing();
     counts();
     statusOfEach();
@@ -185,6 +186,42 @@ public final class ImageEdgesTest extends Edge {
       x.set(0, 909);
       return x.back(1);
     }, x -> 0);
+  }
+
+  /** EVENTS of an image come back whole, though others took their numbers since; so do those that are tried beside. */
+  private static void eventsComeBack() {
+    StepWorld x = Edge.boxes(3);
+    x.step(1);
+    for (int i = 0; i < 20; i++) {
+      x.event(2 + i / 3, i % 3, 1 + i % 9);
+    }
+    x.image();
+    x.back(1);
+    due("none", x.count(2), 0);
+    for (int i = 0; i < 20; i++) {
+      x.event(9, 2, 9);
+    }
+    due("undo", x.undo(), 1);
+    due("twenty", x.count(2), 20);
+    due("next", x.next(), 2);
+    for (int hour = 2; hour < 8; hour++) {
+      x.step(hour == 2 ? 2 : 1);
+      for (int box = 0; box < 3; box++) {
+        due("box " + box + " in hour " + hour, x.of(box, 1), 1 + (3 * (hour - 2) + box) % 9);
+      }
+    }
+    StepWorld y = Edge.boxes(3);
+    y.seam(20, 0);
+    y.step(1);
+    y.event(1, 0, 1);
+    y.event(1, 1, 2);
+    y.event(1, 2, 3);
+    due("2 is 3", y.off(), 3);
+    y.back(1);
+    y.event(0, 2, 1);
+    y.event(0, 2, 2);
+    y.event(0, 1, 9);
+    due("2 is 2", y.off(), 2);
   }
 
   private static void tearing() {

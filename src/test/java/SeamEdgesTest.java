@@ -11,6 +11,7 @@ public final class SeamEdgesTest extends Edge {
     hangsOnNoneOneTwo();
     ringOfAll();
     ringsApart();
+    ringOfTheLast();
     answersNoneOneAll();
     firstAndLastAnswer();
     threeSeamsAndFour();
@@ -215,6 +216,23 @@ public final class SeamEdgesTest extends Edge {
       due("joined, ring of " + box, x.ring(box), joined[box]);
     }
     due("seven seams", x.answers(2), SIZE);
+  }
+
+  /** The last two of seven boxes, with no other seams than theirs. */
+  private static void ringOfTheLast() {
+    StepWorld x = Edge.boxes(7);
+    text(x, 5, "u=a");
+    text(x, 6, "v=b");
+    x.seam(50, 61);
+    x.seam(61, 50);
+    due("hangs", x.hangs(5), 64);
+    due("hangs", x.hangs(6), 32);
+    due("ring", x.ring(5), 96);
+    due("ring", x.ring(6), 96);
+    for (int box = 0; box < 5; box++) {
+      due("none", x.ring(box), 0);
+    }
+    due("answers", x.answers(6), 10);
   }
 
   private static void answersNoneOneAll() {

@@ -100,12 +100,7 @@ public final class WholeEdgesTest extends Edge {
     int[][] rows = {{0, 0, 0}, {0, 0, last}, {0, last, 0}, {0, last, last}, {last, 0, 0}, {last, 0, last}, {last, last, 0},
       {last, last, last}, {1, 0, last}, {m / 2, last, 1}};
     for (int[] row : rows) {
-      StepWorld x = by(m, 1);
-      x.seam(0, 0);
-      for (int i = 2; i >= 0; i--) {
-        x.set(0, 100 * row[i]);
-        x.step(1);
-      }
+      StepWorld x = withLast(m, row);
       for (int i = 0; i < 3; i++) {
         due("kept " + i, x.seamIs(0, 2 + i), row[i]);
       }
@@ -113,7 +108,7 @@ public final class WholeEdgesTest extends Edge {
       for (int rule = 0; rule < 3; rule++) {
         x.guess(rule);
         due("guess by " + rule + " of " + row[0] + ", " + row[1] + ", " + row[2], x.guessed(0), want[rule]);
-        StepWorld y = again(m, row);
+        StepWorld y = withLast(m, row);
         y.guess(rule);
         y.step(1);
         due("what the IN had", y.of(0, 3), want[rule]);
@@ -121,7 +116,8 @@ public final class WholeEdgesTest extends Edge {
     }
   }
 
-  private static StepWorld again(int m, int[] row) {
+  /** A SEAM whose LAST, the one before and the one before that are these. */
+  private static StepWorld withLast(int m, int[] row) {
     StepWorld x = by(m, 1);
     x.seam(0, 0);
     for (int i = 2; i >= 0; i--) {
