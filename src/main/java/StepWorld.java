@@ -197,7 +197,6 @@ public final class StepWorld {
       return found(BEYOND);
     }
     int fault = tape.readAll();
-    tape.length = 0;
     if (fault < 0) {
       now.boxes[box].lines = tape.linesRead();
     }
@@ -464,41 +463,32 @@ public final class StepWorld {
   // ---- beside, records
 
   public int change(int box, int n) {
-    int finding = openChange(box, n);
-    if (finding != 0) {
-      return found(finding);
+    if (!now.hasBox(box) || n < 1 || n > BESIDE_MOST) {
+      return found(BEYOND);
     }
-    int seam = firstChanged(n);
+    if (tape.readAll() >= 0) {
+      return found(KIND);
+    }
+    int seam = firstChanged(box, tape.linesRead(), n);
     return seam < 0 ? found(NONE) : side.hour - 1;
   }
 
   public int drift(int box, int n) {
-    int finding = openChange(box, n);
-    if (finding != 0) {
-      return found(finding);
+    if (!now.hasBox(box) || n < 1 || n > BESIDE_MOST) {
+      return found(BEYOND);
     }
-    int seam = firstChanged(n);
+    if (tape.readAll() >= 0) {
+      return found(KIND);
+    }
+    int seam = firstChanged(box, tape.linesRead(), n);
     return seam < 0 ? found(NONE) : seam;
   }
 
-  /** Lays the world and the one with THE TAPE as a TEXT side by side: 0, or what forbids it. */
-  private int openChange(int box, int n) {
-    if (!now.hasBox(box) || n < 1 || n > BESIDE_MOST) {
-      return BEYOND;
-    }
-    int fault = tape.readAll();
-    tape.length = 0;
-    if (fault >= 0) {
-      return KIND;
-    }
+  /** Goes on beside, with and without a BOX's new LINES, till a SEAM's LAST differs: the least such SEAM, or -1. */
+  private int firstChanged(int box, Lines lines, int n) {
     side.copyFrom(now);
     other.copyFrom(now);
-    other.boxes[box].lines = tape.linesRead();
-    return 0;
-  }
-
-  /** Goes on with both worlds till a SEAM's LAST differs: the least such SEAM, or -1. */
-  private int firstChanged(int n) {
+    other.boxes[box].lines = lines;
     for (int i = 0; i < n; i++) {
       hours.pass(side);
       hours.pass(other);
@@ -780,8 +770,10 @@ public final class StepWorld {
       }
     }
 
-    /** Reads all bytes: -1, or the place of the FAULT. */
+    /** Reads all bytes, of which none is left then: -1, or the place of the FAULT. */
     int readAll() {
+      int had = length;
+      length = 0;
       codes = 0;
       waits = 0;
       open = 0;
@@ -790,16 +782,17 @@ public final class StepWorld {
       state = WANTS_LETTER;
       Arrays.fill(starts, -1);
       Arrays.fill(ends, 0);
-      for (int i = 0; i < length; i++) {
+      for (int i = 0; i < had; i++) {
         if (!takes(bytes[i])) {
           return i;
         }
       }
       // A blank stands ahead of a sign, so behind a last blank a sign is wanted still.
-      boolean closed = state >= BEHIND_DIGIT && open == 0 && length > 0 && bytes[length - 1] != ' ';
+      boolean closed = state >= BEHIND_DIGIT && open == 0 && had > 0 && bytes[had - 1] != ' ';
       if (!closed) {
-        return length;
+        return had;
       }
+      putWaiting(ADD);
       closeLine();
       return -1;
     }
@@ -911,13 +904,13 @@ public final class StepWorld {
       if (open > 0 || lines + 1 >= LINES_MOST) {
         return false;
       }
+      putWaiting(ADD);
       closeLine();
       state = WANTS_LETTER;
       return true;
     }
 
     private void closeLine() {
-      putWaiting(ADD);
       starts[letter] = lineStart;
       ends[letter] = codes;
       lineStart = codes;
@@ -1243,7 +1236,7 @@ public final class StepWorld {
           }
         } else if (top > 1) {
           top--;
-          stack[top - 1] = joined(c, stack[top - 1], stack[top], whole);
+          stack[top - 1] = restBy(joined(c, stack[top - 1], stack[top]), whole);
         }
       }
       return stack[0];
@@ -1260,12 +1253,12 @@ public final class StepWorld {
       }
     }
 
-    private static int joined(int operator, int x, int y, int whole) {
+    private static int joined(int operator, int x, int y) {
       switch (operator) {
-        case ADD: return restBy(x + y, whole);
-        case LESS: return restBy(x - y, whole);
-        case TIMES: return restBy(x * y, whole);
-        default: return restBy(x, y);
+        case ADD: return x + y;
+        case LESS: return x - y;
+        case TIMES: return x * y;
+        default: return y == 0 ? 0 : x % y;
       }
     }
   }

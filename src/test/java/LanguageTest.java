@@ -4,8 +4,11 @@ import java.lang.reflect.Method;
 import java.lang.reflect.Modifier;
 import java.nio.file.Files;
 import java.nio.file.Path;
+import java.util.ArrayList;
 import java.util.List;
+import java.util.Map;
 import java.util.Set;
+import java.util.TreeMap;
 import java.util.TreeSet;
 import java.util.regex.Matcher;
 import java.util.regex.Pattern;
@@ -17,9 +20,12 @@ public final class LanguageTest extends Due {
       + "guess1 guessed1 hangs1 ring1 answers1 solve2 order1 at1 step1 back1 event3 next0 left1 off0 best1 end2 lay2 "
       + "change2 drift2 judge2 beside2 sheet3 write3 copy5 image0 undo0 tear0 count1 status1";
 
+  private static final Set<String> LIBRARY = Set.of("java/lang/Object.<init>", "java/lang/System.arraycopy",
+      "java/lang/Math.min", "java/lang/Math.max", "java/util/Arrays.fill", "java/util/Arrays.copyOf", "[I.clone");
+
   public static void main(String[] args) throws IOException {
     face();
-    List<Class<?>> classes = new java.util.ArrayList<>(List.of(StepWorld.class.getDeclaredClasses()));
+    List<Class<?>> classes = new ArrayList<>(List.of(StepWorld.class.getDeclaredClasses()));
     due("at most 12 classes (rule 11)", classes.size() + 1 <= 12 ? 1 : 0, 1);
     for (Class<?> c : classes) {
       int m = c.getModifiers();
@@ -33,7 +39,43 @@ public final class LanguageTest extends Due {
       fields(c);
     }
     source(Files.readAllLines(SOURCE));
+    compiled(classes);
     close();
+  }
+
+  private static void compiled(List<Class<?>> classes) throws IOException {
+    Map<String, Bytecode.Code> methods = new TreeMap<>();
+    for (Class<?> c : classes) {
+      for (Bytecode.Code code : Bytecode.of(c)) {
+        methods.put(code.name, code);
+      }
+    }
+    for (Bytecode.Code code : methods.values()) {
+      due(code.name + " throws and catches nothing (rule 6)", code.throwing + code.handlers, 0);
+      due(code.name + " locks nothing (rule 6)", code.locking, 0);
+      due(code.name + " has no lambda, nor joins texts by + (rules 2, 10)", code.dynamic, 0);
+      due(code.name + " has no fractions", code.fractions, 0);
+      boolean looks = code.name.startsWith("StepWorld.restBy(") || code.name.startsWith("StepWorld$Reckoner.joined(");
+      due(code.name + " divides by numbers above 0 alone, or looks first (rule 7)", code.divisions, looks ? 1 : 0);
+      for (String call : code.calls) {
+        boolean fine = methods.containsKey(call) || LIBRARY.contains(call.replaceAll("\\(.*", ""));
+        due(code.name + " calls what it may, " + call + " (rule 4)", fine ? 1 : 0, 1);
+      }
+      int deep = depth(code.name, methods, 1);
+      due(code.name + " goes " + deep + " calls deep, 8 at most, none of them recursion (rule 11)", deep <= 8 ? 1 : 0, 1);
+    }
+  }
+
+  /** How many calls stand open at once, from this one on; above all that is fine if it calls itself. */
+  private static int depth(String method, Map<String, Bytecode.Code> methods, int open) {
+    if (!methods.containsKey(method) || open > 20) {
+      return open > 20 ? open : 0;
+    }
+    int most = 0;
+    for (String call : new TreeSet<>(methods.get(method).calls)) {
+      most = Math.max(most, depth(call, methods, open + 1));
+    }
+    return most + 1;
   }
 
   private static void face() {
